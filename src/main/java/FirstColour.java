@@ -1192,7 +1192,8 @@ public final class FirstColour {
 
         private void readNot(int open) {
             if (token == NOT) {
-                if (opens(open)) {
+                if (mayOpen(open)) {
+                    next();
                     readNot(open + 1);
                     addStep(SIGN_STEP + NOT);
                 }
@@ -1231,12 +1232,14 @@ public final class FirstColour {
                 addStep(token == NAME ? NAME_STEP + value : value);
                 next();
             } else if (token == '-') {
-                if (opens(open)) {
+                if (mayOpen(open)) {
+                    next();
                     readOne(open + 1);
                     addStep(SIGN_STEP + NEGATE);
                 }
             } else if (token == '(') {
-                if (opens(open)) {
+                if (mayOpen(open)) {
+                    next();
                     readOr(open + 1);
                     expect(')');
                 }
@@ -1245,13 +1248,12 @@ public final class FirstColour {
             }
         }
 
-        /** Goes behind the token, unless too many are open. */
-        private boolean opens(int open) {
+        /** One more than the most is a fault of the token that would open it. */
+        private boolean mayOpen(int open) {
             if (open >= MOST_OPEN) {
                 fail();
                 return false;
             }
-            next();
             return true;
         }
 

@@ -199,6 +199,12 @@ public final class PromiseTests {
         fault("worthy 1;", 0);
         fault("worth lo;", 6);
         fault("worth lotss;", 6);
+        fault("worth lotz;", 6);
+        fault("worth alot;", 6);
+        fault("worth lot`;", 9);
+        fault("worth lot{;", 9);
+        fault("worth 1/2;", 7);
+        fault("worth 1:2;", 7);
         fault("worth 9999;waits0;moves0;", -1);
         fault("worth 10000;waits0;moves0;", 6);
         fault("worth 1 00000;waits0;moves0;", 8);
