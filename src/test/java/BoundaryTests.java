@@ -596,7 +596,8 @@ public final class BoundaryTests {
     private static void termsATextThatEndsTooEarlyHasItsFaultAtItsSize() {
         String[] early = {"", " ", "worth", "worth ", "worth 1", "worth 1 ", "worth 1;", "worth 1;\n", "worth 1 +",
             "worth 1 or", "worth 1 <", "worth (", "worth (1", "worth not", "worth -", "worth 1;waits",
-            "worth 1;waits 1", "worth 1;waits 1;", "worth 1;waits 1;moves", "worth 1;waits 1;moves 1", "worth 1;waits 1;moves 1 \n"};
+            "worth 1;waits 1", "worth 1;waits 1;", "worth 1;waits 1;moves", "worth 1;waits 1;moves 1",
+            "worth 1;waits 1;moves 1 \n"};
         for (String text : early) {
             fault(text, text.length());
         }
